@@ -446,8 +446,8 @@ public final class StandingsHall {
     checkTold(other);
     int count = lineUp(round, other);
     int pairs = 0;
-    for (int i = 0; i < count; i++) {
-      for (int j = i + 1; j < count; j++) {
+    for (int i = 0; i < count && i < MOST_ENTRANTS; i++) {
+      for (int j = i + 1; j < count && j < MOST_ENTRANTS; j++) {
         pairs += slots[i] > slots[j] ? 1 : 0;
       }
     }
@@ -669,7 +669,7 @@ public final class StandingsHall {
     }
     int count = 0;
     for (int i = 0; i < MOST_ENTRANTS; i++) {
-      if (slots[i] != NONE) {
+      if (slots[i] != NONE && count <= i) {
         slots[count] = slots[i];
         count++;
       }
@@ -683,7 +683,7 @@ public final class StandingsHall {
 
   private int swapNeighbours(int count) {
     int made = 0;
-    for (int i = 0; i + 1 < count; i++) {
+    for (int i = 0; i + 1 < count && i + 1 < MOST_ENTRANTS; i++) {
       if (slots[i] > slots[i + 1]) {
         int upper = slots[i];
         slots[i] = slots[i + 1];
@@ -764,7 +764,7 @@ public final class StandingsHall {
     private void addWord(int word) {
       for (int shift = 24; shift >= 0; shift -= 8) {
         int one = word >>> shift & 255;
-        if (one != 0 && length < MOST_BYTES) {
+        if (one != 0 && length >= 0 && length < MOST_BYTES) {
           bytes[length] = one;
           length++;
         }

@@ -100,6 +100,9 @@ public final class PromisesTest {
     }
     C.due("append", hall.append(-1, -1, -1, -1, 0x01010100), 99);
     C.refuses("append of two over 100", Checks.STATE, () -> hall.append(1, 0, 0, 0, 1));
+    C.refuses("append of two over 100", Checks.STATE, () -> hall.append(0, 1, 0, 1, 0));
+    C.refuses("append of two over 100", Checks.STATE, () -> hall.append(0, 0, 0x0100, 0, 9));
+    C.refuses("append of three over 100", Checks.STATE, () -> hall.append(0, 1, 1, 1, 0));
     C.due("append up to 100", hall.append(0, 0, 0x00010000, 0, 0), 100);
     C.due("append of nothing", hall.append(0, 0, 0, 0, 0), 100);
     C.refuses("append over 100", Checks.STATE, () -> hall.append(0, 0, 0, 0, 0x20));
@@ -669,6 +672,17 @@ public final class PromisesTest {
     ladder("both have played a round ago", hall, 2, 1, 0);
     hall.endRound();
     ladder("both have not played for two rounds", hall, 0, 2, 1);
+    StandingsHall late = hall(0, 0);
+    for (int i = 0; i < 4; i++) {
+      late.endRound();
+    }
+    late.enter(0);
+    late.enter(1);
+    late.endRound();
+    late.endRound();
+    ladder("two rounds in the ladder", late, 0, 1);
+    late.endRound();
+    ladder("three rounds in the ladder", late, 1, 0);
     StandingsHall early = hall(0, 0);
     early.setPatience(9);
     early.enter(0);
@@ -752,6 +766,11 @@ public final class PromisesTest {
       C.refuses("inForm of nobody", Checks.ARGUMENT, () -> hall().inForm(one[0], one[1]));
     }
     C.refuses("inForm of nobody", Checks.ELEMENT, () -> hall().inForm(1, 1));
+    StandingsHall rising = hall(9, 7, 8);
+    rising.endRound();
+    C.due("inForm(1, 1): the greatest, not the latest", rising.inForm(1, 1), 0);
+    rising.setScore(0, 0, 0);
+    C.due("inForm(1, 1): the greatest, not the first", rising.inForm(1, 1), 0);
     C.due("form with no round over", hall(9).form(0, 10, 10), 0);
     StandingsHall fallen = hall(-4);
     fallen.endRound();

@@ -32,6 +32,8 @@ public final class RandomRunsTest {
     for (int method : often) {
       weights[method] += random.nextInt(20);
     }
+    weights[7] += random.nextBoolean() ? 40 : 0;
+    weights[8] += random.nextBoolean() ? 20 : 0;
     weights[6] = random.nextInt(4) == 0 ? 8 : 1;
   }
 
@@ -312,7 +314,7 @@ public final class RandomRunsTest {
           () -> reference.ladderPlace(e)); break;
       case 35: {
         both("endRound()", hall::endRound, reference::endRound);
-        for (int i = 1; i <= 30; i++) {
+        for (int i = 1; i <= reference.ladderSize() + 1; i++) {
           int p = i;
           both("ladderAt(" + p + ")", () -> hall.ladderAt(p), () -> reference.ladderAt(p));
         }

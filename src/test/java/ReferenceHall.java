@@ -509,6 +509,10 @@ final class ReferenceHall {
     return atPlace(ladder, place);
   }
 
+  int ladderSize() {
+    return ladder.size();
+  }
+
   int ladderPlace(int entrant) {
     need(entrant);
     return ladder.contains(entrant) ? ladder.indexOf(entrant) + 1 : -1;
