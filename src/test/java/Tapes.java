@@ -1,6 +1,6 @@
 /** Puts texts onto a hall's tape. */
 final class Tapes {
-  private static final int BYTES_A_CALL = 20;
+  static final int BYTES_A_CALL = 20;
 
   static void put(StandingsHall hall, String text) {
     for (int from = 0; from < text.length(); from += BYTES_A_CALL) {
