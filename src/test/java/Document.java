@@ -1,15 +1,25 @@
 import java.io.IOException;
 import java.nio.file.Files;
 import java.nio.file.Path;
+import java.util.ArrayList;
 import java.util.LinkedHashMap;
 import java.util.LinkedHashSet;
+import java.util.List;
 import java.util.Map;
 import java.util.Set;
+import java.util.regex.Matcher;
+import java.util.regex.Pattern;
 
 /** The document's sentences, each under its head: "What it is", "Section 1", "Promise 1". */
 final class Document {
+  static final Path PATH = Path.of("../shared/DOC.md");
+  private static final Pattern AHEAD =
+      Pattern.compile("Ahead of the calls (.*) the interface says: ---- (.*)");
+
   private final Map<String, StringBuilder> texts = new LinkedHashMap<>();
   private final Set<String> due = new LinkedHashSet<>();
+  private final List<Signature> face = new ArrayList<>();
+  private final Map<String, String> titles = new LinkedHashMap<>();
 
   Document(Path path) throws IOException {
     String head = "";
@@ -17,7 +27,9 @@ final class Document {
     for (String line : Files.readAllLines(path)) {
       if (line.startsWith("```")) {
         isCode = !isCode;
-      } else if (isCode || line.isBlank()) {
+      } else if (isCode) {
+        addToFace(line.trim());
+      } else if (line.isBlank() || line.startsWith("# ")) {
         continue;
       } else if (line.matches("## Promise \\d+: .*")) {
         head = line.substring("## ".length(), line.indexOf(':'));
@@ -30,6 +42,16 @@ final class Document {
         findSentences(head, line);
       }
     }
+  }
+
+  /** The public methods, in the document's order. */
+  List<Signature> face() {
+    return face;
+  }
+
+  /** What the interface says ahead of some calls, and the row of these calls: "come leave ..". */
+  Map<String, String> titles() {
+    return titles;
   }
 
   boolean says(String head, String sentence) {
@@ -45,24 +67,23 @@ final class Document {
     return head + " > " + sentence;
   }
 
-  private void findSentences(String head, String line) {
-    boolean isUseLimit = head.equals("What it is") && line.contains("512");
-    boolean isTerm = head.startsWith("Section ") && !line.startsWith("Ahead of the calls ");
-    if (isUseLimit || isTerm) {
-      addEach(head, line);
-    } else if (head.startsWith("Promise ")) {
-      findPromised(head, line);
+  private void addToFace(String line) {
+    if (line.startsWith("public ") && line.contains("(") && !line.contains(" StandingsHall(")) {
+      face.add(new Signature(line));
     }
   }
 
-  /** What a call does, the bounds of its parameters and of its answer, and what it throws. */
-  private void findPromised(String head, String line) {
-    boolean isBoundedParameter = line.startsWith("- ") && !line.endsWith(": number of an entrant");
-    boolean isBoundedAnswer = line.startsWith("Returns ") && line.matches(".*(\\d|NONE).*");
-    if (line.startsWith("`")) {
+  /** What is told ahead of calls is FaceTest's, and what is not promised has no test. */
+  private void findSentences(String head, String line) {
+    Matcher ahead = AHEAD.matcher(line);
+    if (ahead.matches()) {
+      titles.put(ahead.group(2), ahead.group(1).replaceAll("[`,]", ""));
+    } else if (line.startsWith("`")) {
       addEach(head, line.substring(line.indexOf("`: ") + "`: ".length()));
-    } else if (isBoundedParameter || isBoundedAnswer || line.startsWith("Throws ")) {
+    } else if (line.startsWith("- ") || line.startsWith("Throws ")) {
       due.add(key(head, line));
+    } else if (!head.equals("Not promised")) {
+      addEach(head, line);
     }
   }
 

@@ -6,68 +6,57 @@ import java.nio.file.Files;
 import java.nio.file.Path;
 import java.util.Arrays;
 import java.util.List;
+import java.util.Map;
 import java.util.Set;
 import java.util.TreeSet;
 
 /** The face of the class is the document's, and the text of the program keeps to its rules. */
 public final class FaceTest {
   private static final Path SOURCE = Path.of("src/main/java/StandingsHall.java");
-  private static final Path DOCUMENT = Path.of("../shared/DOC.md");
+  private static final String TITLE = "  // ---- ";
   private static final Checks CHECKS = new Checks();
 
   public static void main(String[] args) throws Exception {
-    faceIsTheDocuments();
+    Document document = new Document(Document.PATH);
+    faceIsTheDocuments(document);
+    callsStandUnderTheirTitles(document);
     nothingElseIsSeen();
     textKeepsToTheRules();
     methodsAreShort();
     CHECKS.end("FaceTest");
   }
 
-  private static void faceIsTheDocuments() throws Exception {
-    String document = Files.readString(DOCUMENT);
-    int from = document.indexOf("public final class StandingsHall {");
-    String face = document.substring(from, document.indexOf("```", from));
+  private static void faceIsTheDocuments(Document document) {
     Set<String> want = new TreeSet<>();
-    for (String line : face.split("\n")) {
-      String text = line.trim();
-      if (text.startsWith("public ") && text.contains("(") && !text.contains("StandingsHall(")) {
-        want.add(plain(text));
-      }
+    for (Signature one : document.face()) {
+      want.add(one.compiled());
     }
     Set<String> got = new TreeSet<>();
     for (Method method : StandingsHall.class.getDeclaredMethods()) {
       if (!Modifier.isPrivate(method.getModifiers())) {
-        got.add(told(method));
+        got.add(new Signature(method).compiled());
       }
     }
     CHECKS.holds("the document's face was found", want.size() == 50);
     CHECKS.holds("methods: " + got + "\ndue are: " + want, got.equals(want));
+    CHECKS.holds("NONE is -1", StandingsHall.NONE == -1);
   }
 
-  /** Type, name, types of the parameters and exceptions, without the parameters' names. */
-  private static String plain(String text) {
-    String throwing = text.contains(" throws ")
-        ? text.substring(text.indexOf(" throws ") + 8, text.length() - 1) : "";
-    String head = text.substring("public ".length(), text.indexOf("("));
-    String inside = text.substring(text.indexOf("(") + 1, text.indexOf(")"));
-    StringBuilder types = new StringBuilder();
-    for (String parameter : inside.split(",")) {
-      types.append(parameter.trim().split(" ")[0]).append(' ');
+  /** The calls stand in the document's order, under what the interface says ahead of them. */
+  private static void callsStandUnderTheirTitles(Document document) throws Exception {
+    StringBuilder want = new StringBuilder();
+    for (Map.Entry<String, String> one : document.titles().entrySet()) {
+      want.append('\n').append(one.getKey()).append(' ').append(one.getValue());
     }
-    return head + "(" + types.toString().trim() + ")" + throwing;
-  }
-
-  private static String told(Method method) {
-    StringBuilder types = new StringBuilder();
-    for (Class<?> type : method.getParameterTypes()) {
-      types.append(type.getName()).append(' ');
+    StringBuilder got = new StringBuilder();
+    for (String line : Files.readAllLines(SOURCE)) {
+      if (line.startsWith(TITLE)) {
+        got.append('\n').append(line.substring(TITLE.length()));
+      } else if (line.matches(" {2}public \\w+ \\w+\\(.*")) {
+        got.append(' ').append(line.substring(0, line.indexOf('(')).trim().split(" ")[2]);
+      }
     }
-    StringBuilder throwing = new StringBuilder();
-    for (Class<?> type : method.getExceptionTypes()) {
-      throwing.append(throwing.length() == 0 ? "" : ", ").append(type.getSimpleName());
-    }
-    return method.getReturnType().getName() + " " + method.getName() + "("
-        + types.toString().trim() + ")" + throwing;
+    CHECKS.holds("titles:" + got + "\ndue are:" + want, got.indexOf(want.toString()) == 0);
   }
 
   private static void nothingElseIsSeen() {

@@ -9,13 +9,12 @@ import java.util.stream.Collectors;
 import java.util.stream.Stream;
 
 /**
- * The files under src/test/bounds: for each sentence of the document that names a bound a test of
- * its own, runs of calls with the answers that are due. Behind each call that throws, and behind
+ * The files under src/test/sentences: for each sentence of the document that promises something a
+ * test of its own, runs of calls with the answers that are due. Behind each call that throws, and behind
  * each that only asks, the hall must be as one on which the call has not been made.
  */
-public final class BoundsTest {
-  private static final Path FILES = Path.of("src/test/bounds");
-  private static final Path DOCUMENT = Path.of("../shared/DOC.md");
+public final class SentencesTest {
+  private static final Path FILES = Path.of("src/test/sentences");
   private static final Checks CHECKS = new Checks();
 
   private final Document document;
@@ -26,12 +25,12 @@ public final class BoundsTest {
   private Script script = new Script();
   private String scriptPlace = "";
 
-  private BoundsTest(Document document) {
+  private SentencesTest(Document document) {
     this.document = document;
   }
 
   public static void main(String[] args) throws IOException {
-    BoundsTest test = new BoundsTest(new Document(DOCUMENT));
+    SentencesTest test = new SentencesTest(new Document(Document.PATH));
     List<Path> files;
     try (Stream<Path> found = Files.list(FILES)) {
       files = found.sorted().collect(Collectors.toList());
@@ -40,7 +39,7 @@ public final class BoundsTest {
       test.read(file);
     }
     test.everySentenceHasATest();
-    CHECKS.end("BoundsTest");
+    CHECKS.end("SentencesTest");
   }
 
   private void read(Path file) throws IOException {
